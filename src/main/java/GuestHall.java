@@ -575,11 +575,17 @@ public final class GuestHall {
                     isMasked = false;
                     break;
                 default:
-                    Arrays.fill(words, b * PLACES, (b + 1) * PLACES, 0);
+                    clear(b);
                     around.giveBack(b);
                     break;
             }
             next = following;
+        }
+
+        private void clear(int page) {
+            for (int place = 0; place < PLACES; place++) {
+                words[page * PLACES + place] = 0;
+            }
         }
 
         private void access(boolean isWritten, int register, int word, Surroundings around) {

@@ -30,12 +30,10 @@ public final class ModelTest {
   static String answerOf(Call call) {
     try {
       return Long.toString(call.on());
-    } catch (IndexOutOfBoundsException e) {
-      return e.getClass() == IndexOutOfBoundsException.class ? "throws IndexOutOfBounds" : "the machine threw " + e;
-    } catch (IllegalArgumentException e) {
-      return "throws IllegalArgument";
-    } catch (IllegalStateException e) {
-      return "throws IllegalState";
+    } catch (IndexOutOfBoundsException | IllegalArgumentException | IllegalStateException e) {
+      // A throw of the classes themselves; what the machine or the library throws has another place.
+      boolean isOwn = e.getStackTrace().length == 0 || e.getStackTrace()[0].getClassName().matches("(GuestHall|ModelHall).*");
+      return (isOwn ? "throws " : "the machine threw ") + e.getClass().getSimpleName();
     } catch (RuntimeException e) {
       return "the machine threw " + e;
     }
