@@ -575,6 +575,21 @@ public final class PromisesTest {
     due(0, x.frameOf(3, 4), "the next frame that is emptied");
     due(GuestHall.SWAPPED, x.pageOf(0, 0), "the page that it held");
     for (int g = 0; g < 4; g++) yes(x.isAsPlain(g), "isAsPlain");
+    // The same where the shared frame is the frame 1 and the frame 0 was used a tick later.
+    GuestHall y = new GuestHall();
+    make(y, 0, 4, false, SET, 0, 1, SET, 1, 28, STORE, 0, 1, SET, 0, 2, STORE, 0, 2, SET, 2, 4, STORE, 0, 2, LOAD, 3, 1, SET, 0, 9, STORE, 0, 2);
+    y.tick(8);
+    y.pause(0, true);
+    due(1, y.share(0), "share");
+    make(y, 0, 4, false, putAll(3, 8));
+    make(y, 0, 4, false, putAll(4, 6));
+    y.tick(32);
+    due(16, y.used(0), "all frames");
+    y.pause(0, false);
+    y.tick(2);
+    due(1, y.frameOf(0, 0), "the frame that it shared");
+    due(0, y.frameOf(0, 1), "the frame of the copy");
+    due(GuestHall.SWAPPED, y.pageOf(0, 7), "the page that was there");
   }
 
   static void sharedFrameIsEmptied() {
