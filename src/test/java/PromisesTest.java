@@ -1,120 +1,7 @@
 /** Each promise of the document by itself: ordinary calls, the edges that it names, and wrong calls. */
-public final class PromisesTest {
-  interface Call {
-    long on();
-  }
-
-  private static final String BOUNDS = "IndexOutOfBoundsException", ARGUMENT = "IllegalArgumentException", STATE = "IllegalStateException";
-  private static int right, wrong;
-  private static String promise;
-
-  private static void due(long due, long got, String what) {
-    if (got == due) {
-      right++;
-    } else {
-      wrong++;
-      System.out.println(promise + ": " + what + " answered " + got + ", due is " + due);
-    }
-  }
-
-  private static void yes(boolean got, String what) {
-    due(1, got ? 1 : 0, what);
-  }
-
-  private static void no(boolean got, String what) {
-    due(0, got ? 1 : 0, what);
-  }
-
-  /** The call throws just this exception, and no answer of the hall changes. */
-  private static void refused(GuestHall x, String exception, Call call, String what) {
-    String before = allAnswers(x);
-    String got = "nothing";
-    try {
-      call.on();
-    } catch (RuntimeException e) {
-      // The class itself throws, never the machine or the library below it.
-      got = (e.getStackTrace()[0].getClassName().startsWith("GuestHall") ? "" : "by itself ") + e.getClass().getSimpleName();
-    }
-    if (got.equals(exception) && allAnswers(x).equals(before)) {
-      right++;
-    } else {
-      wrong++;
-      System.out.println(promise + ": " + what + " threw " + got + ", due is " + exception + ", or it changed something");
-    }
-  }
-
-  private static int count(java.util.function.IntConsumer question) {
-    for (int i = 0; i < 20; i++) {
-      try {
-        question.accept(i);
-      } catch (IndexOutOfBoundsException e) {
-        return i;
-      }
-    }
-    return 20;
-  }
-
-  private static String allAnswers(GuestHall x) {
-    StringBuilder all = new StringBuilder().append(x.time()).append(' ').append(x.used(0)).append(' ').append(x.used(1));
-    int guests = count(x::out), snapshots = count(x::stored);
-    for (int s = 0; s < snapshots; s++) all.append(" s").append(x.stored(s));
-    for (int g = 0; g < guests; g++) {
-      for (int i = 0; i <= 10; i++) all.append(' ').append(x.of(g, i));
-      for (int i = 0; i < 4; i++) all.append(' ').append(x.register(g, i));
-      for (int i = 0; i < 6; i++) all.append(' ').append(x.exits(g, i));
-      for (int i = 0; i < 32; i++) all.append(' ').append(x.word(g, i / 4, i % 4));
-      for (int i = 0; i < 8; i++) all.append(' ').append(x.pageOf(g, i)).append(' ').append(x.frameOf(g, i));
-      for (int i = 0; i < x.out(g); i++) all.append(" o").append(x.outAt(g, i));
-      all.append(' ').append(x.held(g)).append(x.isAsPlain(g));
-    }
-    return all.toString();
-  }
-
-  /** A guest with a program, given as what, a, b, what, a, b and so on. */
-  private static int make(GuestHall x, int host, int weight, boolean isSealed, int... program) {
-    int guest = x.guest(host, weight, isSealed);
-    for (int i = 0; i < program.length; i += 3) x.instruct(guest, program[i], program[i + 1], program[i + 2]);
-    return guest;
-  }
-
-  private static int make(GuestHall x, int... program) {
-    return make(x, 0, 1, false, program);
-  }
-
-  /** The instructions that put a number to an address, by the registers 0 and 1. */
-  private static int[] put(int number, int address) {
-    return new int[] {GuestHall.SET, 0, number, GuestHall.SET, 1, address, GuestHall.STORE, 0, 1};
-  }
-
-  private static int[] get(int address) {
-    return new int[] {GuestHall.SET, 1, address, GuestHall.LOAD, 2, 1};
-  }
-
-  private static int[] all(int[]... parts) {
-    return java.util.Arrays.stream(parts).flatMapToInt(java.util.Arrays::stream).toArray();
-  }
-
-  private static int[] of(int... program) {
-    return program;
-  }
-
-  /** What a guest says when this program is done by itself. */
-  private static void says(int[] program, int... due) {
-    GuestHall x = new GuestHall();
-    make(x, program);
-    x.tick(60);
-    due(due.length, x.out(0), "how much is said");
-    for (int i = 0; i < due.length && i < x.out(0); i++) due(due[i], x.outAt(0, i), "number " + i + " said");
-    yes(x.isAsPlain(0), "isAsPlain");
-  }
-
-  static final int SET = GuestHall.SET, ADD = GuestHall.ADD, LOAD = GuestHall.LOAD, STORE = GuestHall.STORE,
-      JUMP = GuestHall.JUMP, MAP = GuestHall.MAP, OUT = GuestHall.OUT, IN = GuestHall.IN, WAIT = GuestHall.WAIT,
-      HANDLE = GuestHall.HANDLE, MASK = GuestHall.MASK, BACK = GuestHall.BACK, GIVE = GuestHall.GIVE, STOP = GuestHall.STOP;
-  static final int[] LOOP = {SET, 3, 1, JUMP, 3, 0};
-
+public final class PromisesTest extends Checks {
   static void promise1() {
-    GuestHall x = new GuestHall();
+    Hall x = new Hall();
     due(0, x.time(), "time");
     due(0, x.used(0), "used(0)");
     due(0, x.used(1), "used(1)");
@@ -123,11 +10,11 @@ public final class PromisesTest {
     refused(x, STATE, () -> { x.mend(0); return 0; }, "mend(0)");
     refused(x, STATE, () -> { x.mend(1); return 0; }, "mend(1)");
     due(5, x.tick(5), "tick(5) without guests");
-    due(0, new GuestHall().time(), "another hall's time");
+    due(0, new Hall().time(), "another hall's time");
   }
 
   static void promise2() {
-    GuestHall x = new GuestHall();
+    Hall x = new Hall();
     due(0, x.guest(1, 4, false), "guest");
     due(1, x.of(0, 1), "host");
     for (int what : new int[] {0, 2, 3, 4, 5, 6, 7, 8, 10}) due(0, x.of(0, what), "of(0, " + what + ")");
@@ -146,7 +33,7 @@ public final class PromisesTest {
   }
 
   static void promise3() {
-    GuestHall x = new GuestHall();
+    Hall x = new Hall();
     x.guest(0, 1, false);
     int[] mostA = {3, 3, 3, 3, 3, 7, 3, 3, -1, -1, -1, -1, -1, -1};
     int[] mostB = {9999, 3, 3, 3, 23, 8, 1, 2, -1, 23, 1, -1, 7, -1};
@@ -176,7 +63,7 @@ public final class PromisesTest {
     for (int i = 20; i < 24; i++) due(i, x.instruct(0, ADD, 0, 0), "instruct");
     refused(x, STATE, () -> x.instruct(0, ADD, 0, 0), "a 25th instruction");
     refused(x, ARGUMENT, () -> x.instruct(0, ADD, 4, 0), "a 25th instruction that is wrong");
-    GuestHall y = new GuestHall();
+    Hall y = new Hall();
     make(y, ADD, 0, 0);
     make(y, ADD, 0, 0);
     y.tick(1);
@@ -186,7 +73,7 @@ public final class PromisesTest {
     due(2, y.instruct(1, ADD, 0, 0), "instruct behind a snapshot");
     y.restore(1, 0);
     refused(y, STATE, () -> y.instruct(1, ADD, 0, 0), "instruct once restored");
-    GuestHall z = new GuestHall();
+    Hall z = new Hall();
     make(z, ADD, 0, 0);
     z.follow(0, true);
     due(1, z.instruct(0, ADD, 0, 0), "instruct of one that is followed");
@@ -212,7 +99,7 @@ public final class PromisesTest {
     // IN from the inputs: 0 without any; from the clock: the ticks ahead of this one.
     says(of(IN, 0, 0, OUT, 0, 0, IN, 0, 1, OUT, 0, 0), 0, 2);
     // BACK goes to the saved number 0 where nothing was saved.
-    GuestHall x = new GuestHall();
+    Hall x = new Hall();
     make(x, MASK, 0, 1, MASK, 0, 1, BACK, 0, 0);
     x.tick(2);
     due(1, x.of(0, 4), "masked");
@@ -224,7 +111,7 @@ public final class PromisesTest {
   }
 
   static void dying() {
-    GuestHall x = new GuestHall();
+    Hall x = new Hall();
     make(x, all(put(6, 4), of(SET, 1, 32, LOAD, 0, 1)));
     x.tick(4);
     due(GuestHall.READY, x.of(0, 0), "ahead of the fault");
@@ -239,12 +126,12 @@ public final class PromisesTest {
     yes(x.isAsPlain(0), "isAsPlain");
     x.tick(5);
     due(5, x.of(0, 7), "ticks run later");
-    GuestHall y = new GuestHall();
+    Hall y = new Hall();
     make(y, HANDLE, 0, 0, MASK, 0, 1, SET, 1, 9999, STORE, 0, 1);
     y.tick(9);
     due(GuestHall.DEAD, y.of(0, 0), "a fault while masked");
     due(3, y.of(0, 2), "the next instruction");
-    GuestHall z = new GuestHall();
+    Hall z = new Hall();
     make(z);
     due(GuestHall.READY, z.of(0, 0), "without a program");
     z.tick(1);
@@ -254,7 +141,7 @@ public final class PromisesTest {
   }
 
   static void interrupts() {
-    GuestHall x = new GuestHall();
+    Hall x = new Hall();
     make(x, HANDLE, 0, 5, SET, 0, 3, OUT, 0, 1, JUMP, 0, 3, STOP, 0, 0, IN, 1, 2, OUT, 1, 0, BACK, 0, 0);
     x.tick(5);
     due(3, x.of(0, 2), "ahead of the timer");
@@ -269,12 +156,12 @@ public final class PromisesTest {
     due(1, x.out(0), "it goes off once");
     due(2, x.outAt(0, 0), "what is said");
     // A timer that is set again is set anew; with 0 it is set no more.
-    GuestHall y = new GuestHall();
+    Hall y = new Hall();
     make(y, HANDLE, 0, 6, SET, 0, 2, OUT, 0, 1, OUT, 0, 1, OUT, 1, 1, JUMP, 0, 5, STOP, 0, 0);
     y.tick(40);
     due(GuestHall.READY, y.of(0, 0), "the timer was set to 0");
     // A pending interrupt outlives OUT of 0 to the timer, and the timer's goes first.
-    GuestHall z = new GuestHall();
+    Hall z = new Hall();
     make(z, MASK, 0, 1, HANDLE, 0, 7, SET, 0, 1, OUT, 0, 1, ADD, 1, 1, OUT, 1, 1, MASK, 0, 0, IN, 2, 2, OUT, 2, 0, BACK, 0, 0);
     z.send(0);
     z.tick(7);
@@ -285,7 +172,7 @@ public final class PromisesTest {
     due(3, z.outAt(0, 1), "then the one that was sent");
     yes(z.isAsPlain(0), "isAsPlain");
     // WAIT waits not at all while an interrupt is pending, and is an exit all the same.
-    GuestHall w = new GuestHall();
+    Hall w = new Hall();
     make(w, WAIT, 0, 0, WAIT, 0, 0, WAIT, 0, 0);
     w.tick(3);
     due(GuestHall.WAITING, w.of(0, 0), "WAIT");
@@ -296,7 +183,7 @@ public final class PromisesTest {
     due(GuestHall.READY, w.of(0, 0), "WAIT with one pending");
     due(3, w.exits(0, GuestHall.RESTS), "exits of WAIT");
     // A handler behind the last instruction stops the guest.
-    GuestHall v = new GuestHall();
+    Hall v = new Hall();
     make(v, HANDLE, 0, 23, JUMP, 0, 0, SET, 0, 1, JUMP, 0, 3);
     v.tick(4);
     v.send(0);
@@ -308,7 +195,7 @@ public final class PromisesTest {
   }
 
   static void promise4() {
-    GuestHall x = new GuestHall();
+    Hall x = new Hall();
     make(x, LOOP);
     make(x, LOOP);
     no(x.pause(0, true), "pause");
@@ -327,7 +214,7 @@ public final class PromisesTest {
   }
 
   static void promise5() {
-    GuestHall x = new GuestHall();
+    Hall x = new Hall();
     x.tick(7);
     make(x);
     due(0, x.of(0, 5), "the clock at first");
@@ -345,7 +232,7 @@ public final class PromisesTest {
     refused(x, BOUNDS, () -> x.scale(1, 9), "scale(1)");
     refused(x, ARGUMENT, () -> x.scale(0, 0), "scale(0, 0)");
     refused(x, ARGUMENT, () -> x.scale(0, 4), "scale(0, 4)");
-    GuestHall y = new GuestHall();
+    Hall y = new Hall();
     make(y, IN, 0, 1, OUT, 0, 0, IN, 0, 1, OUT, 0, 0);
     y.scale(0, 3);
     y.tick(4);
@@ -355,7 +242,7 @@ public final class PromisesTest {
   }
 
   static void promise6() {
-    GuestHall x = new GuestHall();
+    Hall x = new Hall();
     make(x, IN, 0, 0, OUT, 0, 0, IN, 0, 0, OUT, 0, 0);
     for (int i = 1; i <= 20; i++) due(i, x.input(0, i == 1 ? 9999 : 0), "input");
     refused(x, STATE, () -> x.input(0, 1), "a 21st input");
@@ -370,7 +257,7 @@ public final class PromisesTest {
   }
 
   static void promise7() {
-    GuestHall x = new GuestHall();
+    Hall x = new Hall();
     make(x, HANDLE, 0, 3, WAIT, 0, 0, STOP, 0, 0, IN, 0, 2, OUT, 0, 0, BACK, 0, 0);
     x.tick(2);
     due(GuestHall.WAITING, x.of(0, 0), "ahead of it");
@@ -387,14 +274,14 @@ public final class PromisesTest {
     due(3, x.of(0, 2), "behind STOP");
     refused(x, STATE, () -> x.send(0) ? 1 : 0, "send to one that is STOPPED");
     refused(x, BOUNDS, () -> x.send(1) ? 1 : 0, "send(1)");
-    GuestHall y = new GuestHall();
+    Hall y = new Hall();
     make(y, SET, 0, 32, LOAD, 0, 0);
     y.tick(2);
     refused(y, STATE, () -> y.send(0) ? 1 : 0, "send to one that is DEAD");
   }
 
   static void promise8() {
-    GuestHall x = new GuestHall();
+    Hall x = new Hall();
     refused(x, ARGUMENT, () -> x.tick(0), "tick(0)");
     refused(x, ARGUMENT, () -> x.tick(-1), "tick(-1)");
     refused(x, ARGUMENT, () -> x.tick(101), "tick(101)");
@@ -409,7 +296,7 @@ public final class PromisesTest {
   }
 
   static void turns() {
-    GuestHall x = new GuestHall();
+    Hall x = new Hall();
     make(x, 0, 2, false, LOOP);
     make(x, 0, 1, false, LOOP);
     make(x, 1, 1, false, LOOP);
@@ -424,7 +311,7 @@ public final class PromisesTest {
       for (int g = 0; g < 4; g++) due(i + 1 - ran[g], x.of(g, 6), "ticks stolen of " + g + " at " + i);
     }
     // One alone is chosen again, and its row begins anew.
-    GuestHall y = new GuestHall();
+    Hall y = new Hall();
     make(y, 0, 2, false, LOOP);
     y.tick(3);
     make(y, 0, 1, false, LOOP);
@@ -436,7 +323,7 @@ public final class PromisesTest {
 
   static void turnsThatStay() {
     // A row stays while no guest can run.
-    GuestHall x = new GuestHall();
+    Hall x = new Hall();
     make(x, 0, 3, false, LOOP);
     x.tick(1);
     x.pause(0, true);
@@ -450,7 +337,7 @@ public final class PromisesTest {
     x.tick(1);
     due(1, x.of(1, 7), "and ends with the weight");
     // The turn goes on behind the number that ran last, also when that one is on the other host.
-    GuestHall y = new GuestHall();
+    Hall y = new Hall();
     for (int i = 0; i < 3; i++) make(y, 0, 4, false, LOOP);
     y.tick(5);
     due(1, y.of(1, 7), "the second one's turn");
@@ -460,7 +347,7 @@ public final class PromisesTest {
     due(1, y.of(2, 7), "the next in number behind it");
     due(2, y.of(1, 7), "it runs there");
     // A timer goes off while its guest is paused; an interrupt makes WAITING READY.
-    GuestHall z = new GuestHall();
+    Hall z = new Hall();
     make(z, SET, 0, 2, OUT, 0, 1, WAIT, 0, 0);
     z.tick(3);
     due(GuestHall.WAITING, z.of(0, 0), "WAITING");
@@ -470,7 +357,7 @@ public final class PromisesTest {
   }
 
   static void promise9() {
-    GuestHall x = new GuestHall();
+    Hall x = new Hall();
     make(x, all(put(7, 4), of(SET, 1, 12, STORE, 0, 1, SET, 0, 8, STORE, 0, 1, STOP, 0, 0)));
     make(x, all(put(7, 0), of(STOP, 0, 0)));
     make(x, 0, 1, true, all(put(7, 0), of(STOP, 0, 0)));
@@ -505,15 +392,8 @@ public final class PromisesTest {
     sharedFrameIsEmptied();
   }
 
-  /** A program that puts the number to each of the first so many pages, then does the rest. */
-  private static int[] putAll(int number, int pages, int... rest) {
-    int[] program = {SET, 0, number};
-    for (int page = 0; page < pages; page++) program = all(program, of(SET, 1, 4 * page, STORE, 0, 1));
-    return all(program, rest);
-  }
-
   static void framesRunShort() {
-    GuestHall x = new GuestHall();
+    Hall x = new Hall();
     make(x, 0, 4, false, putAll(1, 8, of(LOAD, 2, 2, SET, 1, 4, LOAD, 2, 1, STOP, 0, 0)));
     x.tick(17);
     make(x, 0, 4, false, putAll(2, 8));
@@ -547,7 +427,7 @@ public final class PromisesTest {
   }
 
   static void copyWithoutFreeFrames() {
-    GuestHall x = new GuestHall();
+    Hall x = new Hall();
     // Frames 0 to 7, then 8 to 15; the first guest's pages 0 and 1 are alike and were used longest ago.
     make(x, 0, 4, false, SET, 0, 1, STORE, 0, 2, SET, 2, 4, STORE, 0, 2, SET, 0, 9, STORE, 0, 2, STOP, 0, 0);
     x.tick(4);
@@ -576,7 +456,7 @@ public final class PromisesTest {
     due(GuestHall.SWAPPED, x.pageOf(0, 0), "the page that it held");
     for (int g = 0; g < 4; g++) yes(x.isAsPlain(g), "isAsPlain");
     // The same where the shared frame is the frame 1 and the frame 0 was used a tick later.
-    GuestHall y = new GuestHall();
+    Hall y = new Hall();
     make(y, 0, 4, false, SET, 0, 1, SET, 1, 28, STORE, 0, 1, SET, 0, 2, STORE, 0, 2, SET, 2, 4, STORE, 0, 2, LOAD, 3, 1, SET, 0, 9, STORE, 0, 2);
     y.tick(8);
     y.pause(0, true);
@@ -593,7 +473,7 @@ public final class PromisesTest {
   }
 
   static void sharedFrameIsEmptied() {
-    GuestHall x = new GuestHall();
+    Hall x = new Hall();
     make(x, 0, 1, false, all(put(5, 0), of(STOP, 0, 0)));
     make(x, 0, 1, false, all(put(5, 8), of(STOP, 0, 0)));
     x.tick(8);
@@ -608,7 +488,7 @@ public final class PromisesTest {
     due(5, x.word(0, 0, 0), "with their words");
     due(5, x.word(1, 2, 0), "with their words");
     // A merged frame was used when the later one of both was.
-    GuestHall y = new GuestHall();
+    Hall y = new Hall();
     make(y, 0, 4, false, putAll(0, 8));
     y.tick(18);
     make(y, 0, 4, false, putAll(1, 8));
@@ -624,7 +504,7 @@ public final class PromisesTest {
   }
 
   static void promise10() {
-    GuestHall x = new GuestHall();
+    Hall x = new Hall();
     make(x, all(put(7, 0), put(7, 28), get(8), of(GIVE, 0, 7, SET, 1, 999, LOAD, 0, 1)));
     x.tick(8);
     due(3, x.move(0), "move: what is not bare");
@@ -643,7 +523,7 @@ public final class PromisesTest {
     x.land(0, false);
     x.tick(2);
     refused(x, STATE, () -> x.move(0), "move of one that is DEAD");
-    GuestHall y = new GuestHall();
+    Hall y = new Hall();
     make(y);
     y.tick(1);
     due(0, y.move(0), "move of one that is STOPPED");
@@ -651,7 +531,7 @@ public final class PromisesTest {
   }
 
   static void promise11() {
-    GuestHall x = new GuestHall();
+    Hall x = new Hall();
     make(x, putAll(4, 4, of(SET, 1, 0, STORE, 0, 1, LOAD, 2, 1, SET, 1, 28, STORE, 0, 1, GIVE, 0, 1, GIVE, 0, 6, STOP, 0, 0)));
     x.tick(9);
     refused(x, STATE, () -> x.round(0, 1), "round of one that is not being moved");
@@ -679,7 +559,7 @@ public final class PromisesTest {
   }
 
   static void promise12() {
-    GuestHall x = new GuestHall();
+    Hall x = new Hall();
     make(x, 0, 1, false, all(put(7, 0), put(7, 28), get(8), of(SET, 1, 28, LOAD, 2, 1, SET, 0, 1, JUMP, 0, 8)));
     make(x, 0, 1, false, all(put(7, 4), of(STOP, 0, 0)));
     x.tick(12);
@@ -717,7 +597,7 @@ public final class PromisesTest {
   }
 
   static void promise13() {
-    GuestHall x = new GuestHall();
+    Hall x = new Hall();
     make(x, all(put(7, 0), put(8, 4), get(8), of(SET, 1, 0, SET, 0, 0, STORE, 0, 1, STOP, 0, 0)));
     make(x, SET, 1, 32, LOAD, 1, 1);
     x.tick(16);
@@ -731,7 +611,7 @@ public final class PromisesTest {
   }
 
   static void promise14() {
-    GuestHall x = new GuestHall();
+    Hall x = new Hall();
     make(x, all(of(IN, 2, 0, OUT, 2, 0), put(7, 0), get(8), of(SET, 1, 0, SET, 0, 0, STORE, 0, 1, SET, 3, 99, LOAD, 3, 3)));
     make(x, STOP, 0, 0);
     x.pause(1, true);
@@ -787,7 +667,7 @@ public final class PromisesTest {
     IN, 2, 2, OUT, 2, 0, BACK, 0, 0, IN, 2, 2, OUT, 2, 0, MAP, 1, 1, BACK, 0, 0};
 
   /** All of a guest that snapshots and steps keep, and what it says in the next ticks. */
-  private static String whatComes(GuestHall x) {
+  private static String whatComes(Hall x) {
     int from = x.out(0);
     StringBuilder all = new StringBuilder();
     for (int tick = 0; tick < 50; tick++) {
@@ -800,8 +680,8 @@ public final class PromisesTest {
     return all.toString();
   }
 
-  private static GuestHall busy(int ticks) {
-    GuestHall x = new GuestHall();
+  private static Hall busy(int ticks) {
+    Hall x = new Hall();
     make(x, BUSY);
     for (int i = 1; i <= 10; i++) x.input(0, i);
     x.tick(ticks);
@@ -810,7 +690,7 @@ public final class PromisesTest {
   }
 
   static void sameAgain(int ticks) {
-    GuestHall x = busy(ticks);
+    Hall x = busy(ticks);
     x.snapshot(0);
     String first = whatComes(x);
     x.restore(0, 0);
@@ -823,7 +703,7 @@ public final class PromisesTest {
     x.tick(40);
     x.restore(0, 1);
     yes(whatComes(x).equals(first), "the same behind a snapshot of what was restored at " + ticks);
-    GuestHall y = busy(ticks);
+    Hall y = busy(ticks);
     y.follow(0, true);
     y.tick(ticks);
     y.fail(0);
@@ -832,7 +712,7 @@ public final class PromisesTest {
   }
 
   static void restoredState() {
-    GuestHall x = new GuestHall();
+    Hall x = new Hall();
     make(x, HANDLE, 0, 9, MAP, 1, 3, SET, 0, 9, OUT, 0, 1, OUT, 0, 0, MASK, 0, 1, MASK, 0, 0, WAIT, 0, 0, STOP, 0, 0, SET, 1, 4, STORE, 0, 1, OUT, 1, 0, BACK, 0, 0);
     x.tick(5);
     x.snapshot(0);
@@ -853,7 +733,7 @@ public final class PromisesTest {
     due(4, x.outAt(0, 2), "what it says");
     yes(x.isAsPlain(0), "isAsPlain");
     // What was pending is pending again; it stays on its host; it is paused as it is now.
-    GuestHall y = new GuestHall();
+    Hall y = new Hall();
     make(y, LOOP);
     y.send(0);
     y.tick(1);
@@ -868,7 +748,7 @@ public final class PromisesTest {
   }
 
   static void promise15() {
-    GuestHall x = new GuestHall();
+    Hall x = new Hall();
     make(x, SET, 0, 5, OUT, 0, 0, ADD, 0, 0, OUT, 0, 0, OUT, 0, 0, SET, 1, 32, OUT, 0, 0, LOAD, 1, 1);
     no(x.follow(0, true), "follow");
     x.tick(4);
@@ -900,7 +780,7 @@ public final class PromisesTest {
   }
 
   static void promise16() {
-    GuestHall x = new GuestHall();
+    Hall x = new Hall();
     make(x, OUT, 0, 0, SET, 0, 1, OUT, 0, 0, JUMP, 0, 0);
     refused(x, STATE, () -> x.step(0), "step of one that is not followed");
     refused(x, BOUNDS, () -> x.step(1), "step(1)");
@@ -918,7 +798,7 @@ public final class PromisesTest {
   }
 
   static void promise17() {
-    GuestHall x = new GuestHall();
+    Hall x = new Hall();
     make(x, all(of(IN, 2, 0, OUT, 2, 0), put(7, 4), get(8), of(SET, 0, 1, JUMP, 0, 0)));
     make(x, all(put(7, 4), of(OUT, 0, 0, SET, 3, 1, JUMP, 3, 0)));
     make(x, 1, 1, false, put(7, 4));
@@ -971,7 +851,7 @@ public final class PromisesTest {
   }
 
   static void failedWithoutOther() {
-    GuestHall x = new GuestHall();
+    Hall x = new Hall();
     make(x, OUT, 0, 0, OUT, 0, 0);
     x.fail(1);
     x.follow(0, true);
@@ -988,7 +868,7 @@ public final class PromisesTest {
   }
 
   static void followedDead() {
-    GuestHall x = new GuestHall();
+    Hall x = new Hall();
     make(x, SET, 0, 3, OUT, 0, 0, SET, 0, 99, LOAD, 0, 0);
     x.tick(1);
     x.follow(0, true);
@@ -1001,7 +881,7 @@ public final class PromisesTest {
     x.tick(1);
     due(1, x.out(0), "it is said once");
     // The words of a step come along, swapped.
-    GuestHall y = new GuestHall();
+    Hall y = new Hall();
     make(y, all(put(7, 4), put(8, 4)));
     y.tick(3);
     y.follow(0, true);
@@ -1012,7 +892,7 @@ public final class PromisesTest {
     due(GuestHall.SWAPPED, y.pageOf(0, 1), "its page");
     yes(y.isAsPlain(0), "isAsPlain");
     // Inputs that were there at the step come again, also those that were taken since.
-    GuestHall z = new GuestHall();
+    Hall z = new Hall();
     make(z, IN, 0, 0, IN, 1, 0, IN, 2, 0);
     z.input(0, 1);
     z.follow(0, true);
@@ -1026,7 +906,7 @@ public final class PromisesTest {
     for (int i = 0; i < 3; i++) due(i + 1, z.register(0, i), "input " + i);
     yes(z.isAsPlain(0), "isAsPlain");
     // Only what came since the last step comes behind its inputs.
-    GuestHall w = new GuestHall();
+    Hall w = new Hall();
     make(w, IN, 0, 0, IN, 1, 0);
     w.follow(0, true);
     w.input(0, 4);
@@ -1040,7 +920,7 @@ public final class PromisesTest {
   }
 
   static void promise18() {
-    GuestHall x = new GuestHall();
+    Hall x = new Hall();
     make(x, LOOP);
     x.fail(0);
     refused(x, STATE, () -> { x.mend(1); return 0; }, "mend of one that is whole");
@@ -1059,7 +939,7 @@ public final class PromisesTest {
   }
 
   static void promise19() {
-    GuestHall x = new GuestHall();
+    Hall x = new Hall();
     x.tick(3);
     x.tick(4);
     due(7, x.time(), "time");
@@ -1070,7 +950,7 @@ public final class PromisesTest {
   }
 
   static void promise20() {
-    GuestHall x = new GuestHall();
+    Hall x = new Hall();
     make(x, LOOP);
     for (int what = 0; what <= 10; what++) due(what == 9 ? -1 : 0, x.of(0, what), "of(0, " + what + ")");
     refused(x, ARGUMENT, () -> x.of(0, 11), "of(0, 11)");
@@ -1080,7 +960,7 @@ public final class PromisesTest {
   }
 
   static void promise21() {
-    GuestHall x = new GuestHall();
+    Hall x = new Hall();
     make(x, 0, 1, false, SET, 0, 1, SET, 1, 2, SET, 2, 3, SET, 3, 9999);
     make(x, 0, 1, true, SET, 0, 1, OUT, 0, 0);
     x.tick(12);
@@ -1093,7 +973,7 @@ public final class PromisesTest {
   }
 
   static void promise22() {
-    GuestHall x = new GuestHall();
+    Hall x = new Hall();
     make(x, 0, 1, false, all(put(7, 6), put(8, 31)));
     make(x, 0, 1, true, put(7, 6));
     x.tick(12);
@@ -1111,7 +991,7 @@ public final class PromisesTest {
   }
 
   static void promises23to25() {
-    GuestHall x = new GuestHall();
+    Hall x = new Hall();
     make(x, all(put(0, 4), get(8), of(GIVE, 0, 1), put(1, 12), of(STOP, 0, 0)));
     x.tick(3);
     due(GuestHall.HELD, x.pageOf(0, 1), "a page of 0 that was written");
@@ -1140,7 +1020,7 @@ public final class PromisesTest {
   }
 
   static void promise26() {
-    GuestHall x = new GuestHall();
+    Hall x = new Hall();
     make(x, OUT, 0, 0, OUT, 0, 1, IN, 0, 0, IN, 0, 1, IN, 0, 2, WAIT, 0, 0, STOP, 0, 0);
     x.send(0);
     x.snapshot(0);
@@ -1158,7 +1038,7 @@ public final class PromisesTest {
   }
 
   static void promises27to29() {
-    GuestHall x = new GuestHall();
+    Hall x = new Hall();
     make(x, SET, 1, 1, OUT, 0, 0, ADD, 0, 1, JUMP, 1, 1);
     x.tick(100);
     due(33, x.out(0), "out");
@@ -1177,7 +1057,7 @@ public final class PromisesTest {
   }
 
   static void promise30() {
-    GuestHall x = new GuestHall();
+    Hall x = new Hall();
     make(x, all(put(7, 0), put(7, 4), get(8), of(SET, 0, 9, SET, 1, 0, STORE, 0, 1, SET, 1, 4, SET, 0, 0, STORE, 0, 1)));
     make(x, put(1, 0));
     x.pause(1, true);
@@ -1208,7 +1088,7 @@ public final class PromisesTest {
   }
 
   static void promise31() {
-    GuestHall x = new GuestHall();
+    Hall x = new Hall();
     make(x, 0, 2, false, all(of(HANDLE, 0, 12, IN, 0, 1, OUT, 0, 0, SET, 1, 4, STORE, 0, 1, LOAD, 2, 1, OUT, 2, 0, SET, 3, 5, OUT, 3, 1,
         WAIT, 0, 0, SET, 3, 32, LOAD, 3, 3, IN, 2, 2, OUT, 2, 0, IN, 2, 0, STORE, 2, 1, SET, 3, 1, BACK, 0, 0)));
     make(x, 0, 1, true, all(put(4, 4), of(IN, 2, 1, OUT, 2, 0), LOOP));
@@ -1235,35 +1115,16 @@ public final class PromisesTest {
     refused(x, BOUNDS, () -> x.isAsPlain(-1) ? 1 : 0, "isAsPlain(-1)");
   }
 
-  /** Questions change nothing: two halls with the same calls stay alike, though one is asked much. */
-  static void questions() {
-    GuestHall x = new GuestHall(), y = new GuestHall();
-    for (GuestHall each : new GuestHall[] {x, y}) make(each, 0, 1, false, all(put(4, 4), of(IN, 2, 0, OUT, 2, 0), LOOP));
-    for (int i = 0; i < 20; i++) {
-      String before = allAnswers(x);
-      yes(before.equals(allAnswers(x)), "the same answers again");
-      x.input(0, i);
-      y.input(0, i);
-      x.tick(3);
-      y.tick(3);
-    }
-    yes(allAnswers(x).equals(allAnswers(y)), "alike with and without questions");
-  }
-
   public static void main(String[] args) {
     Runnable[] promises = {PromisesTest::promise1, PromisesTest::promise2, PromisesTest::promise3, PromisesTest::instructions,
         PromisesTest::promise4, PromisesTest::promise5, PromisesTest::promise6, PromisesTest::promise7, PromisesTest::promise8,
         PromisesTest::promise9, PromisesTest::promise10, PromisesTest::promise11, PromisesTest::promise12, PromisesTest::promise13,
         PromisesTest::promise14, PromisesTest::promise15, PromisesTest::promise16, PromisesTest::promise17, PromisesTest::promise18,
         PromisesTest::promise19, PromisesTest::promise20, PromisesTest::promise21, PromisesTest::promise22, PromisesTest::promises23to25,
-        PromisesTest::promise26, PromisesTest::promises27to29, PromisesTest::promise30, PromisesTest::promise31, PromisesTest::questions};
+        PromisesTest::promise26, PromisesTest::promises27to29, PromisesTest::promise30, PromisesTest::promise31};
     String[] names = {"1", "2", "3", "instructions", "4", "5", "6", "7", "8", "9", "10", "11", "12", "13", "14", "15", "16", "17", "18",
-        "19", "20", "21", "22", "23 to 25", "26", "27 to 29", "30", "31", "questions"};
-    for (int i = 0; i < promises.length; i++) {
-      promise = "promise " + names[i];
-      promises[i].run();
-    }
-    System.out.println(right + " answers are as due, " + wrong + " are not");
-    if (wrong > 0) System.exit(1);
+        "19", "20", "21", "22", "23 to 25", "26", "27 to 29", "30", "31"};
+    for (int i = 0; i < promises.length; i++) test("promise " + names[i], promises[i]);
+    report();
   }
 }
