@@ -1,9 +1,10 @@
 import java.util.List;
 
-/** The sentences of "What it is", "Terms" and "Guests" that name an edge, each with a test of its own. */
+/** The sentences of "What it is", "Terms" and "Guests", and of the promises 1 and 6, that name an edge, each with a test of its own. */
 public final class GuestsTest extends Checks {
   public static void main(String[] args) {
     sentence("An object is used for at most 512 calls after it has been made", GuestsTest::allCalls);
+    sentence("Makes a hall without guests; both hosts are whole, the time is 0.", GuestsTest::newHall);
     sentence("Questions change nothing.", GuestsTest::questions);
     sentence("A guest cannot tell any of this, but by its clock", GuestsTest::cannotTell);
     sentence("Guests are numbered from 0, at most 5.", GuestsTest::fiveGuests);
@@ -26,6 +27,7 @@ public final class GuestsTest extends Checks {
     sentence("in place of one that was set", GuestsTest::timerInPlace);
     sentence("or, with 0, not at all (an interrupt that is pending stays so)", GuestsTest::timerOff);
     sentence("0 the first of the inputs, which is taken, or 0 without any", GuestsTest::inputs);
+    sentence("Throws `IllegalStateException` if it has 20", GuestsTest::twentyInputs);
     sentence("1 the clock; 2 the cause", GuestsTest::clockAndCause);
     sentence("WAIT: it is WAITING until an interrupt is pending (not at all, if one is).", GuestsTest::waits);
     sentence("HANDLE: the handler becomes the instruction b.", GuestsTest::handles);
@@ -52,6 +54,26 @@ public final class GuestsTest extends Checks {
     for (int call = 5; call <= 510; call++) due(call - 4, x.tick(1), "tick");
     due(253, x.register(0, 1), "the call 511");
     yes(x.isAsPlain(0), "the call 512");
+  }
+
+  static void newHall() {
+    Hall x = new Hall();
+    due(0, x.time(), "the time");
+    for (int host = 0; host < 2; host++) {
+      int one = host;
+      due(0, x.used(host), "used");
+      due(0, x.share(host), "share");
+      refused(x, STATE, () -> {
+        x.mend(one);
+        return 0;
+      }, "mend of a host that is whole");
+    }
+    refusedAll(x, BOUNDS, guest -> () -> x.of(guest, HOW), "of no guest", Integer.MIN_VALUE, -1, 0, 1, Integer.MAX_VALUE);
+    refusedAll(x, BOUNDS, snapshot -> () -> x.stored(snapshot), "stored of no snapshot", Integer.MIN_VALUE, -1, 0, 1, Integer.MAX_VALUE);
+    due(100, x.tick(100), "tick without guests");
+    due(0, new Hall().time(), "the time of another hall");
+    due(0, x.fail(0) + x.fail(1), "fail without guests");
+    due(101, x.tick(1), "tick without hosts");
   }
 
   /** All questions, and all with which something is refused. */
@@ -440,7 +462,7 @@ public final class GuestsTest extends Checks {
     refused(x, STATE, () -> x.input(0, 1), "a 21st input");
     x.tick(61);
     due(0, x.of(0, INPUTS), "all are taken");
-    for (int i = 0; i < 21; i++) due(i < 21 ? 100 + i : 0, x.outAt(0, i), "the input " + i);
+    for (int i = 0; i < 21; i++) due(100 + i, x.outAt(0, i), "the input " + i);
     x.tick(3);
     due(0, x.outAt(0, 21), "without any");
     due(0, x.of(0, INPUTS), "without any");
@@ -448,6 +470,24 @@ public final class GuestsTest extends Checks {
     x.tick(3);
     due(9, x.outAt(0, 22), "the first one again");
     yes(x.isAsPlain(0), "isAsPlain");
+  }
+
+  static void twentyInputs() {
+    // However a guest is: READY, WAITING, STOPPED, DEAD.
+    Hall x = new Hall();
+    make(x, SET, 3, 1, JUMP, 3, 0);
+    make(x, WAIT, 0, 0);
+    make(x, STOP, 0, 0);
+    make(x, SET, 0, 32, LOAD, 0, 0);
+    x.tick(6);
+    for (int guest = 0; guest < 4; guest++) {
+      int one = guest;
+      due(guest, x.of(guest, HOW), "how");
+      for (int i = 1; i <= 20; i++) due(i, x.input(guest, 0), "input");
+      refusedAll(x, STATE, value -> () -> x.input(one, value), "a 21st input", 0, 9999);
+      refusedAll(x, ARGUMENT, value -> () -> x.input(one, value), "a 21st input", outside(0, 9999));
+      due(20, x.of(guest, INPUTS), "inputs");
+    }
   }
 
   static void clockAndCause() {

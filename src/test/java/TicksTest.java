@@ -22,6 +22,7 @@ public final class TicksTest extends Checks {
     sentence("Pauses a guest, or no more.", TicksTest::pauses);
     sentence("it is pending, and a guest that is WAITING is READY", TicksTest::sends);
     sentence("Returns whether one that was sent was pending already.", TicksTest::sentAlready);
+    sentence("Throws `IllegalStateException` if it is STOPPED or DEAD", TicksTest::sendRefused);
     sentence("- `ticks`: 1 to 100", TicksTest::ticks);
     sentence("Throws `IllegalStateException` if it would be above 3000", TicksTest::lastTime);
     sentence("Returns the time: how many ticks went by.", TicksTest::time);
@@ -468,15 +469,24 @@ public final class TicksTest extends Checks {
     due(WAITING, y.of(0, HOW), "ahead of send");
     y.send(0);
     due(READY, y.of(0, HOW), "one that was WAITING, paused");
-    Hall z = new Hall();
-    make(z, STOP, 0, 0);
-    make(z, SET, 0, 99, LOAD, 0, 0);
-    z.tick(1);
-    no(z.send(1), "send ahead of the fault");
-    z.tick(2);
-    refused(z, STATE, () -> z.send(0) ? 1 : 0, "send to one that is STOPPED");
-    refused(z, STATE, () -> z.send(1) ? 1 : 0, "send to one that is DEAD");
-    refusedAll(z, BOUNDS, guest -> () -> z.send(guest) ? 1 : 0, "send", outside(0, 1));
+  }
+
+  static void sendRefused() {
+    Hall x = new Hall();
+    make(x, STOP, 0, 0);
+    make(x, SET, 0, 99, LOAD, 0, 0);
+    make(x);
+    for (int guest = 0; guest < 3; guest++) no(x.send(guest), "send ahead of that");
+    x.tick(4);
+    int[] how = {STOPPED, DEAD, STOPPED};
+    for (int guest = 0; guest < 3; guest++) {
+      int one = guest;
+      due(how[guest], x.of(guest, HOW), "how");
+      refused(x, STATE, () -> x.send(one) ? 1 : 0, "send to " + guest);
+    }
+    x.fail(0);
+    refused(x, STATE, () -> x.send(0) ? 1 : 0, "send to one that is DEAD by the failing of its host");
+    refusedAll(x, BOUNDS, guest -> () -> x.send(guest) ? 1 : 0, "send", outside(0, 2));
   }
 
   static void sentAlready() {
