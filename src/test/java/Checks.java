@@ -208,7 +208,7 @@ abstract class Checks {
     all.append(answer(() -> hall.fail(0))).append(answer(() -> hall.tick(9))).append(brief(hall, guests));
     for (int g = 0; g < guests; g++) {
       int guest = g;
-      all.append(answer(() -> hall.input(guest, 7))).append(answer(() -> hall.step(guest)));
+      all.append(answer(() -> hall.input(guest, 7))).append(answer(() -> hall.step(guest))).append(answer(() -> hall.stored(hall.snapshot(guest))));
     }
     all.append(answer(() -> {
       hall.mend(0);

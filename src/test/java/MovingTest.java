@@ -720,6 +720,17 @@ public final class MovingTest extends Checks {
     y.follow(0, true);
     y.move(1);
     for (int i = 0; i < 4; i++) due(i, y.snapshot(i % 2), "snapshot");
+    // One that is DEAD goes on with its step: its last snapshot is the one that was made, not the one that was refused.
+    Hall z = workers(0);
+    write(z, 0, 5, 0, 4);
+    due(0, z.snapshot(0), "snapshot");
+    z.follow(0, true);
+    write(z, 0, 5, 32);
+    due(DEAD, z.of(0, HOW), "how");
+    refused(z, STATE, () -> z.snapshot(0), "snapshot of one that is DEAD, and followed");
+    z.fail(0);
+    due(1, z.snapshot(0), "snapshot of one that goes on");
+    due(0, z.stored(1), "stored, with the same words");
   }
 
   static void restoresDead() {
